@@ -68,7 +68,8 @@ public final class FloorEyesOracle {
     }
 
     private static int[] arguments(Random random, int kind, int style) {
-        int cell = within(random, 192);
+        boolean dense = style % 3 == 1;
+        int cell = dense && random.nextInt(4) != 0 ? denseCell(random) : within(random, 192);
         int eye = within(random, 1 + random.nextInt(12));
         int set = random.nextInt(5) == 0 ? random.nextInt() : random.nextInt(4096);
         if (random.nextInt(6) == 0) {
@@ -81,9 +82,11 @@ public final class FloorEyesOracle {
                 return shutArguments(random, cell, style);
             case 1:
             case 2:
-                return new int[] {cell, random.nextInt(3) == 0 ? 0 : 1};
+                // Where much is told or private, no set serves.
+                return new int[] {cell, random.nextInt(10) < (!dense ? 6 : kind == 1 ? 4 : 1) ? 1 : 0};
             case 3:
-                return new int[] {within(random, 17), within(random, 13), 1 + within(random, 20),
+                return new int[] {within(random, 17), within(random, 13),
+                    dense ? 8 + random.nextInt(13) : 1 + within(random, 20),
                     random.nextInt(30) == 0 ? random.nextInt(20002) - 5000 : random.nextInt(4),
                     random.nextInt(2), within(random, 8)};
             case 4:
@@ -113,7 +116,7 @@ public final class FloorEyesOracle {
     }
 
     private static int[] shutArguments(Random random, int cell, int style) {
-        int is = random.nextInt(5) < 2 ? 0 : 1;
+        int is = random.nextInt(5) < (style % 3 == 1 ? 4 : 2) ? 0 : 1;
         int to = cell;
         if (random.nextInt(4) == 0) {
             to = within(random, 192);
@@ -123,6 +126,11 @@ public final class FloorEyesOracle {
             to = cell + (random.nextBoolean() ? 1 : 16);
         }
         return new int[] {cell, to, is};
+    }
+
+    /** One of few cells in the middle, so that what is told, private, masked and walked often meets. */
+    private static int denseCell(Random random) {
+        return 16 * (5 + random.nextInt(3)) + 6 + random.nextInt(4);
     }
 
     /** Mostly 0 to bound - 1; now and then just outside, or far. */

@@ -66,6 +66,7 @@ public final class FloorEyesPromises {
         cheapestOfEqualCost();
         cost();
         unseen();
+        allTicks();
         blind();
         step();
         stand();
@@ -510,6 +511,47 @@ public final class FloorEyesPromises {
         due("shut", x.unseen(told, 7), NONE);
         dueIndex("-1", () -> x.unseen(-1, 0));
         dueIndex("192", () -> x.unseen(192, 0));
+    }
+
+    /** A camera that sees the cell (10, 6) at all ticks of its round but those that are named. */
+    private static void addRound(FloorEyes x, int length, int... away) {
+        int number = NONE;
+        for (int tick = 0; tick < length; tick++) {
+            int way = 0;
+            for (int other : away) {
+                way = other == tick ? 4 : way;
+            }
+            if (tick == 0) {
+                number = x.camera(8, 6, 20, 1, true, way);
+            } else {
+                x.turn(number, way);
+            }
+        }
+    }
+
+    private static void allTicks() {
+        part = "10, 13 all 840 ticks";
+        int told = cell(10, 6);
+        FloorEyes x = new FloorEyes();
+        x.tell(told, true);
+        addRound(x, 8, 7);
+        addRound(x, 3, 2);
+        addRound(x, 5, 4);
+        addRound(x, 7, 6);
+        addRound(x, 2, 0);
+        due("not at tick 23", x.serves(3, false), false);
+        due("not at tick 839", x.serves(15, false), false);
+        due("but with one of odd ticks", x.serves(31, false), true);
+        due("the cheapest: two that are never away together", x.cheapest(false), 1 + 16);
+        due("all are away only at tick 839", x.unseen(told, 15), 1);
+        FloorEyes y = new FloorEyes();
+        addRound(y, 8, 0, 7);
+        addRound(y, 3, 0, 2);
+        addRound(y, 5, 0, 4);
+        addRound(y, 7, 0, 6);
+        due("a row from tick 839 on to 840", y.unseen(told, 15), 2);
+        addRound(y, 6, 0);
+        due("a row that one ends", y.unseen(told, 31), 1);
     }
 
     private static void blind() {
