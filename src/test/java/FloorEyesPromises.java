@@ -1,51 +1,7 @@
 import java.util.NoSuchElementException;
 
 /** Each promise of the document by hand-made runs: ordinary inputs, the edges, wrong inputs. */
-public final class FloorEyesPromises {
-    private static final int NONE = FloorEyes.NONE;
-    private static int wrong = 0;
-    private static String part = "";
-
-    private interface Call {
-        void run();
-    }
-
-    private static void due(String what, long got, long want) {
-        if (got != want) {
-            wrong++;
-            System.out.println(part + ": " + what + " answered " + got + ", due is " + want);
-        }
-    }
-
-    private static void due(String what, boolean got, boolean want) {
-        due(what, got ? 1 : 0, want ? 1 : 0);
-    }
-
-    private static void dueThrow(String what, Class<? extends RuntimeException> want, Call call) {
-        String got = "nothing";
-        try {
-            call.run();
-        } catch (RuntimeException e) {
-            got = e.getClass().getName();
-        }
-        if (!got.equals(want.getName())) {
-            wrong++;
-            System.out.println(part + ": " + what + " threw " + got + ", due is " + want.getName());
-        }
-    }
-
-    private static void dueIndex(String what, Call call) {
-        dueThrow(what, IndexOutOfBoundsException.class, call);
-    }
-
-    private static void dueArgument(String what, Call call) {
-        dueThrow(what, IllegalArgumentException.class, call);
-    }
-
-    private static int cell(int x, int y) {
-        return 16 * y + x;
-    }
-
+public final class FloorEyesPromises extends Checks {
     public static void main(String[] args) {
         newObject();
         shut();
@@ -74,14 +30,11 @@ public final class FloorEyesPromises {
         followAcrossGaps();
         count();
         throwingChangesNothing();
-        System.out.println(wrong == 0 ? "all promises hold" : wrong + " answers are not as due");
-        if (wrong != 0) {
-            System.exit(1);
-        }
+        end("all promises hold");
     }
 
     private static void newObject() {
-        part = "1 a new object";
+        part("1 a new object");
         FloorEyes x = new FloorEyes();
         for (int what = 0; what <= 4; what++) {
             due("count(" + what + ")", x.count(what), 0);
@@ -102,7 +55,7 @@ public final class FloorEyesPromises {
     }
 
     private static void shut() {
-        part = "2 shut";
+        part("2 shut");
         FloorEyes x = new FloorEyes();
         due("one", x.shut(0, 0, true), 1);
         due("one again", x.shut(0, 0, true), 0);
@@ -123,7 +76,7 @@ public final class FloorEyesPromises {
     }
 
     private static void tell() {
-        part = "3 tell";
+        part("3 tell");
         FloorEyes x = new FloorEyes();
         due("0", x.tell(0, true), true);
         due("0 again", x.tell(0, true), false);
@@ -138,7 +91,7 @@ public final class FloorEyesPromises {
     }
 
     private static void hide() {
-        part = "4 hide";
+        part("4 hide");
         FloorEyes x = new FloorEyes();
         due("0", x.hide(0, true), true);
         due("0 again", x.hide(0, true), false);
@@ -153,7 +106,7 @@ public final class FloorEyesPromises {
     }
 
     private static void camera() {
-        part = "5 camera";
+        part("5 camera");
         FloorEyes x = new FloorEyes();
         due("the least", x.camera(0, 0, 1, 0, false, 0), 0);
         due("the most", x.camera(16, 12, 20, 10000, true, 7), 1);
@@ -179,7 +132,7 @@ public final class FloorEyesPromises {
     }
 
     private static void turn() {
-        part = "6 turn";
+        part("6 turn");
         FloorEyes x = new FloorEyes();
         dueIndex("there is none", () -> x.turn(0, 0));
         x.camera(8, 6, 5, 1, true, 0);
@@ -201,7 +154,7 @@ public final class FloorEyesPromises {
     }
 
     private static void mask() {
-        part = "7 mask";
+        part("7 mask");
         FloorEyes x = new FloorEyes();
         x.camera(0, 0, 20, 1, false, 1);
         x.camera(0, 0, 20, 1, false, 1);
@@ -222,7 +175,7 @@ public final class FloorEyesPromises {
     }
 
     private static void seesByReach() {
-        part = "8 sees, reach";
+        part("8 sees, reach");
         FloorEyes x = new FloorEyes();
         x.camera(0, 0, 5, 1, false, 1);
         due("3, 4 is 5 away", x.sees(0, cell(2, 3), 0), true);
@@ -249,7 +202,7 @@ public final class FloorEyesPromises {
         16 * 6 + 9, 16 * 7 + 8, 16 * 7 + 7, 16 * 6 + 6, 16 * 5 + 6, 16 * 4 + 7, 16 * 4 + 8, 16 * 5 + 9};
 
     private static void seesByWay() {
-        part = "8 sees, ways";
+        part("8 sees, ways");
         for (int way = 0; way < 8; way++) {
             FloorEyes x = new FloorEyes();
             x.camera(8, 6, 4, 1, true, way);
@@ -268,7 +221,7 @@ public final class FloorEyesPromises {
     }
 
     private static void seesPastWalls() {
-        part = "8 sees, walls";
+        part("8 sees, walls");
         FloorEyes x = new FloorEyes();
         x.camera(0, 0, 20, 1, false, 1);
         x.shut(1, 1, true);
@@ -308,7 +261,7 @@ public final class FloorEyesPromises {
     }
 
     private static void seesByTick() {
-        part = "8 sees, ticks";
+        part("8 sees, ticks");
         FloorEyes x = new FloorEyes();
         x.camera(8, 6, 4, 1, true, 4);
         x.turn(0, 0);
@@ -325,7 +278,7 @@ public final class FloorEyesPromises {
     }
 
     private static void shows() {
-        part = "9 shows";
+        part("9 shows");
         FloorEyes x = new FloorEyes();
         x.camera(8, 6, 1, 1, false, 0);
         due("9, 6 is 1 away", x.shows(0, cell(9, 6), 0), true);
@@ -349,7 +302,7 @@ public final class FloorEyesPromises {
     }
 
     private static void showsPastWalls() {
-        part = "9 shows, walls";
+        part("9 shows, walls");
         FloorEyes x = new FloorEyes();
         x.camera(1, 1, 20, 1, false, 0);
         x.shut(cell(1, 0), cell(2, 1), true);
@@ -369,7 +322,7 @@ public final class FloorEyesPromises {
     }
 
     private static void serves() {
-        part = "10 serves";
+        part("10 serves");
         FloorEyes x = new FloorEyes();
         x.camera(0, 0, 20, 4, false, 1);
         x.camera(0, 0, 20, 4, false, 1);
@@ -400,7 +353,7 @@ public final class FloorEyesPromises {
     }
 
     private static void servesWithoutShowing() {
-        part = "10 serves, private";
+        part("10 serves, private");
         FloorEyes x = new FloorEyes();
         x.camera(8, 6, 20, 4, true, 0);
         x.camera(8, 6, 20, 4, true, 0);
@@ -421,7 +374,7 @@ public final class FloorEyesPromises {
     }
 
     private static void cheapest() {
-        part = "11 cheapest";
+        part("11 cheapest");
         FloorEyes x = new FloorEyes();
         x.tell(cell(10, 6), true);
         due("without cameras", x.cheapest(false), NONE);
@@ -446,7 +399,7 @@ public final class FloorEyesPromises {
     }
 
     private static void cheapestOfEqualCost() {
-        part = "11 cheapest, equals";
+        part("11 cheapest, equals");
         FloorEyes x = new FloorEyes();
         x.tell(cell(10, 6), true);
         x.tell(cell(2, 6), true);
@@ -465,7 +418,7 @@ public final class FloorEyesPromises {
     }
 
     private static void cost() {
-        part = "12 cost";
+        part("12 cost");
         FloorEyes x = new FloorEyes();
         for (int e = 0; e < 12; e++) {
             x.camera(e, e, 1 + e, e == 11 ? 10000 : 1 << e, false, 0);
@@ -479,7 +432,7 @@ public final class FloorEyesPromises {
     }
 
     private static void unseen() {
-        part = "13 unseen";
+        part("13 unseen");
         FloorEyes x = new FloorEyes();
         int told = cell(10, 6);
         x.camera(8, 6, 20, 1, true, 0);
@@ -530,7 +483,7 @@ public final class FloorEyesPromises {
     }
 
     private static void allTicks() {
-        part = "10, 13 all 840 ticks";
+        part("10, 13 all 840 ticks");
         int told = cell(10, 6);
         FloorEyes x = new FloorEyes();
         x.tell(told, true);
@@ -555,7 +508,7 @@ public final class FloorEyesPromises {
     }
 
     private static void blind() {
-        part = "14 blind";
+        part("14 blind");
         FloorEyes x = new FloorEyes();
         x.camera(0, 0, 20, 1, false, 1);
         due("by none", x.blind(0), 192);
@@ -590,7 +543,7 @@ public final class FloorEyesPromises {
     }
 
     private static void step() {
-        part = "15 step";
+        part("15 step");
         FloorEyes x = new FloorEyes();
         dueIndex("-1", () -> x.step(-1));
         dueIndex("192", () -> x.step(192));
@@ -605,7 +558,7 @@ public final class FloorEyesPromises {
     }
 
     private static void stand() {
-        part = "16 stand";
+        part("16 stand");
         FloorEyes x = new FloorEyes();
         x.camera(0, 0, 20, 1, false, 1);
         due("none", x.stand(), 0);
@@ -620,7 +573,7 @@ public final class FloorEyesPromises {
     }
 
     private static void follow() {
-        part = "17 follow";
+        part("17 follow");
         FloorEyes x = new FloorEyes();
         x.camera(8, 6, 20, 1, true, 0);
         x.camera(8, 6, 20, 1, false, 0);
@@ -646,7 +599,7 @@ public final class FloorEyesPromises {
     }
 
     private static void followAcrossGaps() {
-        part = "17 follow, gaps";
+        part("17 follow, gaps");
         FloorEyes x = new FloorEyes();
         x.camera(8, 6, 20, 1, true, 4);
         x.turn(0, 0);
@@ -673,7 +626,7 @@ public final class FloorEyesPromises {
     }
 
     private static void count() {
-        part = "18 count";
+        part("18 count");
         FloorEyes x = new FloorEyes();
         x.shut(0, 2, true);
         x.tell(0, true);
@@ -696,7 +649,7 @@ public final class FloorEyesPromises {
     }
 
     private static void throwingChangesNothing() {
-        part = "what throws changes nothing";
+        part("what throws changes nothing");
         FloorEyes x = new FloorEyes();
         x.camera(0, 0, 20, 1, false, 1);
         x.tell(17, true);
