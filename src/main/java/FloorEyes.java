@@ -40,9 +40,7 @@ public final class FloorEyes {
         needCell(to);
         int changed = floor.shutRectangle(from, to, is);
         if (changed > 0) {
-            for (int e = 0; e < eyeCount; e++) {
-                eyes[e].forgetSights();
-            }
+            forgetAllSights();
             planStands = false;
         }
         return changed;
@@ -79,29 +77,29 @@ public final class FloorEyes {
     }
 
     public int turn(int camera, int way) throws IndexOutOfBoundsException, IllegalArgumentException {
-        needEye(camera);
+        Eye eye = needEye(camera);
         needWithin(way, 0, WAYS - 1);
         planStands = false;
-        return eyes[camera].addWay(way);
+        return eye.addWay(way);
     }
 
     public boolean mask(int camera, int cell, boolean is) throws IndexOutOfBoundsException {
-        needEye(camera);
+        Eye eye = needEye(camera);
         needCell(cell);
         planStands = false;
-        return put(eyes[camera].masked, cell, is);
+        return put(eye.masked, cell, is);
     }
 
     public boolean sees(int camera, int cell, int tick) throws IndexOutOfBoundsException {
-        needEye(camera);
+        Eye eye = needEye(camera);
         needCell(cell);
-        return eyes[camera].seesAt(cell, tick);
+        return eye.seesAt(cell, tick);
     }
 
     public boolean shows(int camera, int cell, int tick) throws IndexOutOfBoundsException {
-        needEye(camera);
+        Eye eye = needEye(camera);
         needCell(cell);
-        return eyes[camera].showsAt(cell, tick);
+        return eye.showsAt(cell, tick);
     }
 
     public boolean serves(int set, boolean safe) {
@@ -194,10 +192,12 @@ public final class FloorEyes {
         }
     }
 
-    private void needEye(int number) {
-        if (number < 0 || number >= eyeCount) {
+    private Eye needEye(int number) {
+        Eye eye = number < 0 || number >= eyeCount ? null : eyes[number];
+        if (eye == null) {
             throw new IndexOutOfBoundsException("there is no such camera");
         }
+        return eye;
     }
 
     private static void needWithin(int number, int least, int most) {
@@ -229,21 +229,32 @@ public final class FloorEyes {
 
     private int priceOf(int set) {
         int sum = 0;
-        for (int e = 0; e < eyeCount; e++) {
-            if ((set >> e & 1) != 0) {
-                sum += eyes[e].price;
+        for (int e = 0; e < eyes.length; e++) {
+            Eye eye = eyes[e];
+            if ((set >> e & 1) != 0 && eye != null) {
+                sum += eye.price;
             }
         }
         return sum;
     }
 
     private boolean everSeen(int set, int cell) {
-        for (int e = 0; e < eyeCount; e++) {
-            if ((set >> e & 1) != 0 && eyes[e].everSees(cell)) {
+        for (int e = 0; e < eyes.length; e++) {
+            Eye eye = eyes[e];
+            if ((set >> e & 1) != 0 && eye != null && eye.everSees(cell)) {
                 return true;
             }
         }
         return false;
+    }
+
+    private void forgetAllSights() {
+        for (int e = 0; e < eyes.length; e++) {
+            Eye eye = eyes[e];
+            if (eye != null) {
+                eye.forgetSights();
+            }
+        }
     }
 
     private void makePlanStand() {
@@ -267,8 +278,9 @@ public final class FloorEyes {
 
     private int showersOf(int cell) {
         int showers = 0;
-        for (int e = 0; e < eyeCount; e++) {
-            if (eyes[e].everShows(cell)) {
+        for (int e = 0; e < eyes.length; e++) {
+            Eye eye = eyes[e];
+            if (eye != null && eye.everShows(cell)) {
                 showers |= 1 << e;
             }
         }

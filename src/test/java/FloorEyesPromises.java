@@ -2,7 +2,11 @@ import java.util.NoSuchElementException;
 
 /** Each promise of the document by hand-made runs: ordinary inputs, the edges, wrong inputs. */
 public final class FloorEyesPromises extends Checks {
+    private static final int PROMISES = 18;
+    private static final boolean[] tested = new boolean[PROMISES + 1];
+
     public static void main(String[] args) {
+        readDocument(args);
         newObject();
         shut();
         tell();
@@ -30,11 +34,24 @@ public final class FloorEyesPromises extends Checks {
         followAcrossGaps();
         count();
         throwingChangesNothing();
+        eachPromiseWasTested();
         end("all promises hold");
     }
 
+    private static void promise(int number, String name) {
+        sentence("## Promise " + number + ": " + name + "\n");
+        tested[number] = true;
+    }
+
+    private static void eachPromiseWasTested() {
+        part("each promise has a test of its own");
+        for (int number = 1; number <= PROMISES; number++) {
+            due("promise " + number, tested[number], true);
+        }
+    }
+
     private static void newObject() {
-        part("1 a new object");
+        promise(1, "A new object");
         FloorEyes x = new FloorEyes();
         for (int what = 0; what <= 4; what++) {
             due("count(" + what + ")", x.count(what), 0);
@@ -55,7 +72,7 @@ public final class FloorEyesPromises extends Checks {
     }
 
     private static void shut() {
-        part("2 shut");
+        promise(2, "shut");
         FloorEyes x = new FloorEyes();
         due("one", x.shut(0, 0, true), 1);
         due("one again", x.shut(0, 0, true), 0);
@@ -76,7 +93,7 @@ public final class FloorEyesPromises extends Checks {
     }
 
     private static void tell() {
-        part("3 tell");
+        promise(3, "tell");
         FloorEyes x = new FloorEyes();
         due("0", x.tell(0, true), true);
         due("0 again", x.tell(0, true), false);
@@ -91,7 +108,7 @@ public final class FloorEyesPromises extends Checks {
     }
 
     private static void hide() {
-        part("4 hide");
+        promise(4, "hide");
         FloorEyes x = new FloorEyes();
         due("0", x.hide(0, true), true);
         due("0 again", x.hide(0, true), false);
@@ -106,7 +123,7 @@ public final class FloorEyesPromises extends Checks {
     }
 
     private static void camera() {
-        part("5 camera");
+        promise(5, "camera");
         FloorEyes x = new FloorEyes();
         due("the least", x.camera(0, 0, 1, 0, false, 0), 0);
         due("the most", x.camera(16, 12, 20, 10000, true, 7), 1);
@@ -132,7 +149,7 @@ public final class FloorEyesPromises extends Checks {
     }
 
     private static void turn() {
-        part("6 turn");
+        promise(6, "turn");
         FloorEyes x = new FloorEyes();
         dueIndex("there is none", () -> x.turn(0, 0));
         x.camera(8, 6, 5, 1, true, 0);
@@ -154,7 +171,7 @@ public final class FloorEyesPromises extends Checks {
     }
 
     private static void mask() {
-        part("7 mask");
+        promise(7, "mask");
         FloorEyes x = new FloorEyes();
         x.camera(0, 0, 20, 1, false, 1);
         x.camera(0, 0, 20, 1, false, 1);
@@ -175,7 +192,7 @@ public final class FloorEyesPromises extends Checks {
     }
 
     private static void seesByReach() {
-        part("8 sees, reach");
+        promise(8, "sees");
         FloorEyes x = new FloorEyes();
         x.camera(0, 0, 5, 1, false, 1);
         due("3, 4 is 5 away", x.sees(0, cell(2, 3), 0), true);
@@ -202,7 +219,7 @@ public final class FloorEyesPromises extends Checks {
         16 * 6 + 9, 16 * 7 + 8, 16 * 7 + 7, 16 * 6 + 6, 16 * 5 + 6, 16 * 4 + 7, 16 * 4 + 8, 16 * 5 + 9};
 
     private static void seesByWay() {
-        part("8 sees, ways");
+        promise(8, "sees");
         for (int way = 0; way < 8; way++) {
             FloorEyes x = new FloorEyes();
             x.camera(8, 6, 4, 1, true, way);
@@ -221,7 +238,7 @@ public final class FloorEyesPromises extends Checks {
     }
 
     private static void seesPastWalls() {
-        part("8 sees, walls");
+        promise(8, "sees");
         FloorEyes x = new FloorEyes();
         x.camera(0, 0, 20, 1, false, 1);
         x.shut(1, 1, true);
@@ -261,7 +278,7 @@ public final class FloorEyesPromises extends Checks {
     }
 
     private static void seesByTick() {
-        part("8 sees, ticks");
+        promise(8, "sees");
         FloorEyes x = new FloorEyes();
         x.camera(8, 6, 4, 1, true, 4);
         x.turn(0, 0);
@@ -278,7 +295,7 @@ public final class FloorEyesPromises extends Checks {
     }
 
     private static void shows() {
-        part("9 shows");
+        promise(9, "shows");
         FloorEyes x = new FloorEyes();
         x.camera(8, 6, 1, 1, false, 0);
         due("9, 6 is 1 away", x.shows(0, cell(9, 6), 0), true);
@@ -302,7 +319,7 @@ public final class FloorEyesPromises extends Checks {
     }
 
     private static void showsPastWalls() {
-        part("9 shows, walls");
+        promise(9, "shows");
         FloorEyes x = new FloorEyes();
         x.camera(1, 1, 20, 1, false, 0);
         x.shut(cell(1, 0), cell(2, 1), true);
@@ -322,7 +339,7 @@ public final class FloorEyesPromises extends Checks {
     }
 
     private static void serves() {
-        part("10 serves");
+        promise(10, "serves");
         FloorEyes x = new FloorEyes();
         x.camera(0, 0, 20, 4, false, 1);
         x.camera(0, 0, 20, 4, false, 1);
@@ -353,7 +370,7 @@ public final class FloorEyesPromises extends Checks {
     }
 
     private static void servesWithoutShowing() {
-        part("10 serves, private");
+        promise(10, "serves");
         FloorEyes x = new FloorEyes();
         x.camera(8, 6, 20, 4, true, 0);
         x.camera(8, 6, 20, 4, true, 0);
@@ -374,7 +391,7 @@ public final class FloorEyesPromises extends Checks {
     }
 
     private static void cheapest() {
-        part("11 cheapest");
+        promise(11, "cheapest");
         FloorEyes x = new FloorEyes();
         x.tell(cell(10, 6), true);
         due("without cameras", x.cheapest(false), NONE);
@@ -399,7 +416,7 @@ public final class FloorEyesPromises extends Checks {
     }
 
     private static void cheapestOfEqualCost() {
-        part("11 cheapest, equals");
+        promise(11, "cheapest");
         FloorEyes x = new FloorEyes();
         x.tell(cell(10, 6), true);
         x.tell(cell(2, 6), true);
@@ -418,7 +435,7 @@ public final class FloorEyesPromises extends Checks {
     }
 
     private static void cost() {
-        part("12 cost");
+        promise(12, "cost");
         FloorEyes x = new FloorEyes();
         for (int e = 0; e < 12; e++) {
             x.camera(e, e, 1 + e, e == 11 ? 10000 : 1 << e, false, 0);
@@ -432,7 +449,7 @@ public final class FloorEyesPromises extends Checks {
     }
 
     private static void unseen() {
-        part("13 unseen");
+        promise(13, "unseen");
         FloorEyes x = new FloorEyes();
         int told = cell(10, 6);
         x.camera(8, 6, 20, 1, true, 0);
@@ -483,7 +500,8 @@ public final class FloorEyesPromises extends Checks {
     }
 
     private static void allTicks() {
-        part("10, 13 all 840 ticks");
+        promise(10, "serves");
+        promise(13, "unseen");
         int told = cell(10, 6);
         FloorEyes x = new FloorEyes();
         x.tell(told, true);
@@ -508,7 +526,7 @@ public final class FloorEyesPromises extends Checks {
     }
 
     private static void blind() {
-        part("14 blind");
+        promise(14, "blind");
         FloorEyes x = new FloorEyes();
         x.camera(0, 0, 20, 1, false, 1);
         due("by none", x.blind(0), 192);
@@ -543,7 +561,7 @@ public final class FloorEyesPromises extends Checks {
     }
 
     private static void step() {
-        part("15 step");
+        promise(15, "step");
         FloorEyes x = new FloorEyes();
         dueIndex("-1", () -> x.step(-1));
         dueIndex("192", () -> x.step(192));
@@ -558,7 +576,7 @@ public final class FloorEyesPromises extends Checks {
     }
 
     private static void stand() {
-        part("16 stand");
+        promise(16, "stand");
         FloorEyes x = new FloorEyes();
         x.camera(0, 0, 20, 1, false, 1);
         due("none", x.stand(), 0);
@@ -573,7 +591,7 @@ public final class FloorEyesPromises extends Checks {
     }
 
     private static void follow() {
-        part("17 follow");
+        promise(17, "follow");
         FloorEyes x = new FloorEyes();
         x.camera(8, 6, 20, 1, true, 0);
         x.camera(8, 6, 20, 1, false, 0);
@@ -599,7 +617,7 @@ public final class FloorEyesPromises extends Checks {
     }
 
     private static void followAcrossGaps() {
-        part("17 follow, gaps");
+        promise(17, "follow");
         FloorEyes x = new FloorEyes();
         x.camera(8, 6, 20, 1, true, 4);
         x.turn(0, 0);
@@ -626,7 +644,7 @@ public final class FloorEyesPromises extends Checks {
     }
 
     private static void count() {
-        part("18 count");
+        promise(18, "count");
         FloorEyes x = new FloorEyes();
         x.shut(0, 2, true);
         x.tell(0, true);
@@ -649,7 +667,7 @@ public final class FloorEyesPromises extends Checks {
     }
 
     private static void throwingChangesNothing() {
-        part("what throws changes nothing");
+        sentence("a call that throws changes nothing");
         FloorEyes x = new FloorEyes();
         x.camera(0, 0, 20, 1, false, 1);
         x.tell(17, true);

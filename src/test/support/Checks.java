@@ -96,6 +96,6 @@ abstract class Checks {
 
     private static void fault(String what) {
         wrong++;
-        System.out.println(part + ": " + what);
+        System.out.println(part.strip() + ": " + what);
     }
 }
